@@ -273,6 +273,20 @@ public final class PromiseTest {
         due(8, "24 LINES", y.edit(d, 0, 20, 3, 3, 5), 1);
     }
 
+    /** As many LINES and EDITS as there may be: the last MARK is 1152. */
+    static void mostMarks() {
+        MergeLine x = new MergeLine(1);
+        for (int i = 0; i < 192; i++) due(2, "LINE", x.line(i % 8, i), i + 1);
+        for (int i = 0; i < 60; i++) x.change(0);
+        for (int i = 0; i < 240; i++) due(8, "EDIT", x.edit(i % 60, i / 60 + 4, i % 20, 4, 4, 9000 + i), i / 60 + 1);
+        due(8, "MARKS", x.count(8), 1152);
+        x.queue(59);
+        x.go(1);
+        due(8, "the last MARK", x.at(1, 7, 22, 1), 1152);
+        due(8, "its VALUE", x.at(1, 7, 22, 0), 9242);
+        due(8, "a full FILE stays full", x.at(1, 7, 23, 1), 192);
+    }
+
     static void promise9() {
         MergeLine x = code();
         int c = changed(x, 0, 0, 1, 2, 1, 500);
@@ -801,6 +815,26 @@ public final class PromiseTest {
         due(21, "another FILE is the same", x.at(1, 1, 1, 1), 6);
     }
 
+    /** Each CHANGE is TAKEN alone: STATE 60 is the last that can be. */
+    static void mostStates() {
+        MergeLine x = new MergeLine(1);
+        x.size(1);
+        for (int i = 0; i < 60; i++) {
+            queued(x, 0, i % 8, 0, 0, 1, 100 + i);
+            x.go(1);
+            due(21, "STATE", x.about(i, 2), i + 1);
+        }
+        due(21, "latest", x.count(6), 60);
+        for (int s = 0; s <= 60; s++) {
+            for (int file = 0; file < 8; file++) {
+                StringBuilder want = new StringBuilder();
+                for (int i = s - 1; i >= 0; i--) if (i % 8 == file) want.append(100 + i).append(' ');
+                dueText(21, "STATE " + s, values(x, s, file), want.toString().trim());
+            }
+        }
+        due(21, "STATE 61", x.at(61, 0, 0, 0), BAD);
+    }
+
     static void promise22() {
         MergeLine x = code();
         due(22, "none", x.log(0, 0), NONE);
@@ -880,8 +914,7 @@ public final class PromiseTest {
             x.tries(5, 5);
             x.odds(0, 999);
             x.test(4, 0, 0, 0);
-            x.leave(2);
-            queued(x, 0, 4, 0, 0, 2, 5);
+            queued(x, 1, 0, 0, 0, 2, 5);
             x.go(10);
             due(26, "goBack", x.goBack(), 1);
             dueText(26, "turn " + turn, all(x), was);
@@ -901,6 +934,59 @@ public final class PromiseTest {
         due(26, "numbers go on from there", x.change(0), 3);
         x.edit(3, 7, 0, 0, 1, 1);
         due(26, "MARKS go on from there", x.count(8), mark + 1);
+    }
+
+    /** What was kept in the midst of WORK goes on as it would have, whatever was done in between. */
+    static void keptInWork() {
+        MergeLine x = eightWithOneHeld();
+        x.test(3, 0, 0, 4);
+        x.test(3, 5, 0, 9);
+        x.odds(1, 300);
+        x.tries(3, 2);
+        int[] more = {changed(x, 0, 1, 2, 0, 1, 5), changed(x, 3, 2, 1, 0, 1, 5), changed(x, 0, 3, 0, 0, 1, 5)};
+        x.pair(more[0], more[1]);
+        x.go(2);
+        x.keep();
+        String was = all(x);
+        String then = goOn(x, more);
+        for (int turn = 0; turn < 2; turn++) {
+            x.goBack();
+            dueText(26, "in WORK", all(x), was);
+            x.hand(1, false);
+            x.hand(more[1], true);
+            x.odds(0, 999);
+            x.odds(1, 0);
+            x.tries(1, 1);
+            x.size(1);
+            x.leave(5);
+            int made = x.change(3);
+            x.hand(made, true);
+            x.pair(made, more[2]);
+            x.edit(made, 6, 0, 0, 2, 1000);
+            x.edit(more[2], 6, 0, 0, 2, 2000);
+            x.edit(more[2], 7, 0, 0, 2, 2000);
+            x.queue(more[2]);
+            x.queue(more[1]);
+            x.queue(more[0]);
+            x.queue(made);
+            x.go(10);
+            x.goBack();
+            dueText(26, "goes on", goOn(x, more), then);
+        }
+    }
+
+    static String goOn(MergeLine x, int[] more) {
+        int made = x.change(3);
+        x.edit(made, 5, 0, 0, 1, 9);
+        x.edit(more[2], 4, 0, 0, 1, 9);
+        x.queue(made);
+        for (int change : more) x.queue(change);
+        x.go(3);
+        String midst = all(x);
+        x.go(10);
+        x.hand(more[1], true);
+        x.go(10);
+        return midst + "//" + all(x) + x.hand(made, true) + x.size(3);
     }
 
     static String all(MergeLine x) {
@@ -941,6 +1027,7 @@ public final class PromiseTest {
         promise6();
         promise7();
         promise8();
+        mostMarks();
         promise9();
         promise10();
         promise11();
@@ -954,10 +1041,12 @@ public final class PromiseTest {
         promise19();
         promise20();
         promise21();
+        mostStates();
         promise22();
         promise23();
         promise24();
         promise25and26();
+        keptInWork();
         promise27();
         System.out.println(wrong == 0 ? "all promises are as due" : wrong + " answers are not as due");
         if (wrong != 0) System.exit(1);
