@@ -1,7 +1,5 @@
 /** For each promise the answers that the document tells: ordinary numbers, edges, and wrong ones. */
-public final class PromiseTest {
-    static final int NONE = -1, BAD = -2, STATE = -3, FULL = -4;
-    static final int[] WRONG = {-1, Integer.MIN_VALUE, Integer.MAX_VALUE};
+public final class PromiseTest extends Dues {
     static int wrong = 0;
 
     static void due(int promise, String what, int got, int want) {
@@ -10,57 +8,13 @@ public final class PromiseTest {
         System.out.println("promise " + promise + ", " + what + ": answered " + got + ", due is " + want);
     }
 
-    /** FILE 0: 10 20 30 40 with MARKS 1 to 4; FILE 1: 1001 2001 with 5, 6; FILE 2: 7 with 7. */
-    static MergeLine code() {
-        MergeLine x = new MergeLine(3);
-        for (int i = 1; i <= 4; i++) x.line(0, 10 * i);
-        x.line(1, 1001);
-        x.line(1, 2001);
-        x.line(2, 7);
-        return x;
-    }
-
-    static int changed(MergeLine x, int kind, int file, int at, int t, int p, int v) {
-        int change = x.change(kind);
-        x.edit(change, file, at, t, p, v);
-        return change;
-    }
-
-    static int queued(MergeLine x, int kind, int file, int at, int t, int p, int v) {
-        int change = changed(x, kind, file, at, t, p, v);
-        x.queue(change);
-        return change;
-    }
-
     /** n CHANGES in THE LINE, each with a FILE of its own, all TOUCHING no TEST. */
     static void queueRow(MergeLine x, int n) {
         for (int i = 0; i < n; i++) queued(x, 0, i, 0, 0, 1, 100 + i);
     }
 
-    static String values(MergeLine x, int state, int file) {
-        StringBuilder all = new StringBuilder();
-        for (int i = 0; x.at(state, file, i, 0) != NONE; i++) all.append(x.at(state, file, i, 0)).append(' ');
-        return all.toString().trim();
-    }
-
     static void dueText(int promise, String what, String got, String want) {
         due(promise, what + " (" + got + " for " + want + ")", got.equals(want) ? 1 : 0, 1);
-    }
-
-    static String log(MergeLine x, int run) {
-        return x.log(run, 0) + " " + x.log(run, 1) + " " + x.log(run, 2) + " " + x.log(run, 3);
-    }
-
-    static String work(MergeLine x) {
-        StringBuilder all = new StringBuilder();
-        for (int k = 0; x.inWork(k) != NONE; k++) all.append(x.inWork(k)).append(' ');
-        return all.toString().trim();
-    }
-
-    static String theLine(MergeLine x) {
-        StringBuilder all = new StringBuilder();
-        for (int k = 0; x.inLine(k) != NONE; k++) all.append(x.inLine(k)).append(' ');
-        return all.toString().trim();
     }
 
     static void promise1() {
