@@ -397,9 +397,9 @@ public final class MergeLine {
         }
 
         void takeOver(Book other) {
-            System.arraycopy(other.marks, 0, marks, 0, marks.length);
-            System.arraycopy(other.lengths, 0, lengths, 0, lengths.length);
-            System.arraycopy(other.values, 0, values, 0, values.length);
+            System.arraycopy(other.marks, 0, marks, 0, Math.min(marks.length, other.marks.length));
+            System.arraycopy(other.lengths, 0, lengths, 0, Math.min(lengths.length, other.lengths.length));
+            System.arraycopy(other.values, 0, values, 0, Math.min(values.length, other.values.length));
             latest = other.latest;
             made = other.made;
         }

@@ -38,6 +38,9 @@ public final class LanguageTest {
         none("5", code, "\\bstatic\\s+\\{|\\bstatic (?!final )(?!class )[^(){}=;]*[=;]");
         none("6", code, "\\b(equals|hashCode|toString)\\b");
         none("1", code, "\\b(protected)\\b");
+        none("4", code, "\\bSystem\\.(?!arraycopy\\()\\w*|\\bMath\\.(?!(min|max|abs|floorDiv|floorMod)\\()\\w*");
+        Matcher open = Pattern.compile("(?m)^    public int (\\w+)\\(").matcher(code);
+        while (open.find()) none("1, a private method of a public one's name", code, "private (static )?\\w+ " + open.group(1) + "\\([^;]*\\{");
         atMost("11, classes", 12, found(code, "\\bclass \\w"));
         for (String body : code.split("\\bclass ")) {
             atMost("11, fields", 20, found(body, "(?m)^\\s+private (final )?[\\w\\[\\]]+ \\w+( = [^;{]*)?;"));
