@@ -184,6 +184,12 @@ public final class RefusalTest extends Dues {
     }
 
     static void order() {
+        sentence("NONE = -1, BAD = -2, STATE = -3, FULL = -4", () -> {
+            due("NONE", MergeLine.NONE, -1);
+            due("BAD", MergeLine.BAD, -2);
+            due("STATE", MergeLine.STATE, -3);
+            due("FULL", MergeLine.FULL, -4);
+        });
         sentence("Numbers go from 0 on", () -> {
             MergeLine x = empty();
             due("TEST", x.test(LONG, 0, 0, 24), 0);
