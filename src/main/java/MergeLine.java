@@ -376,9 +376,10 @@ public final class MergeLine {
         /** Makes the room that puts LINES need where takes LINES stand. */
         void makeRoom(int slot, int file, int place, int takes, int puts) {
             if (slot < 0 || slot >= SLOTS || file < 0 || file >= FILES) return;
+            if (!isIn(place, LINES + 1) || !isIn(takes, LINES + 1) || !isIn(puts, LINES + 1)) return;
             int at = slot * FILES + file;
             int behind = lengths[at] - place - takes;
-            if (place < 0 || takes < 0 || puts < 0 || behind < 0) return;
+            if (!isIn(behind, LINES + 1)) return;
             if (place + takes + behind > LINES || place + puts + behind > LINES) return;
             int start = at * LINES + place;
             System.arraycopy(marks, start + takes, marks, start + puts, behind);
