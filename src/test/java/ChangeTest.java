@@ -8,6 +8,12 @@ public final class ChangeTest extends Dues {
             due("one more", x.change(PLAIN), FULL);
             due("CHANGES", x.count(2), 60);
             due("CHANGE 59", x.about(59, 0), HELD);
+            due("CHANGE 59 is not TAKEN", x.about(59, 2), NONE);
+            due("CHANGE 59 has not failed", x.about(59, 3), NONE);
+            due("CHANGE 59 is not PAIRED", x.about(59, 5), NONE);
+            due("a HAND for CHANGE 59", x.hand(59, true) + x.hand(59, false), 1);
+            due("EDITS of CHANGE 59", x.edit(59, 7, 0, 0, 1, 5) + x.edit(59, 6, 0, 0, 4, 5), 3);
+            due("PAIRED are 58 and 59", x.pair(59, 58) * 10000 + x.about(59, 5) * 100 + x.about(58, 5), 15859);
             due("CHANGE 60", x.about(60, 0), BAD);
         });
         sentence("CHANGES, 60 at most: REVERTS, too", () -> {
